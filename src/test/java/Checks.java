@@ -24,6 +24,10 @@ final class Checks {
         due(what, so ? 1 : 0, 1);
     }
 
+    long asked() {
+        return asked;
+    }
+
     void end() {
         System.out.println(test + ": " + asked + " answers, " + wrong + " wrong");
         if (wrong != 0 || asked == 0) {

@@ -110,11 +110,17 @@ public final class FaceTest {
         if (!bean.isThreadAllocatedMemorySupported()) {
             return;
         }
-        LoweredPowers x = new LoweredPowers();
-        everyCall(x);
+        LoweredPowers[] objects = new LoweredPowers[20];
+        for (int n = 0; n < objects.length; n++) {
+            objects[n] = new LoweredPowers();
+            everyCall(objects[n]);
+        }
         long before = bean.getCurrentThreadAllocatedBytes();
-        for (int times = 0; times < 100; times++) {
-            everyCall(x);
+        for (LoweredPowers x : objects) {
+            // with the first time some 460 calls of an object's 512
+            for (int times = 1; times < 10; times++) {
+                everyCall(x);
+            }
         }
         long made = bean.getCurrentThreadAllocatedBytes() - before;
         CHECKS.holds("calls make nothing: " + made, made < 4000);

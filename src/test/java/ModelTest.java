@@ -2,8 +2,9 @@ import java.util.Random;
 
 /** Long runs of calls by a fixed seed, each answer compared with the model's. */
 public final class ModelTest {
-    private static final int OBJECTS = 400;
-    private static final int CALLS = 500;
+    private static final int OBJECTS = 2500;
+    /** An object answers for 512 calls; the longest way of one round here makes some 110. */
+    private static final int CALLS = 400;
     private static final int KINDS = 44;
     private static final int[] SPECIAL_FLOATS = {0, 0x80000000, 1, 0x80000001, 0x7F800000, 0xFF800000, 0x7FC00000, 0x7F800001,
         0xFFFFFFFF, 0x7F7FFFFF, 0xFF7FFFFF, 0x00800000, 0x007FFFFF, 0x3F800000, 0xBF800000, 0x4F000000, 0xCF000000, 0x4EFFFFFF};
@@ -24,9 +25,11 @@ public final class ModelTest {
         for (int object = 0; object < OBJECTS; object++) {
             LoweredPowers x = new LoweredPowers();
             Model m = new Model();
-            for (int call = 0; call < CALLS; call++) {
+            long first = checks.asked();
+            for (long call = 0; call < CALLS; call = checks.asked() - first) {
                 call(x, m, random.nextInt(KINDS + 4), "object " + object + " call " + call + " ");
             }
+            checks.holds("an object's calls", checks.asked() - first <= 512);
         }
         checks.end();
     }

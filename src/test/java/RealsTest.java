@@ -2,8 +2,9 @@ import java.util.Random;
 
 /** Promises 20 to 25 against the machine's own floats and doubles, over many patterns of bits. */
 public final class RealsTest {
-    private static final int ROUNDS = 1500;
-    private static final int EACH = 200;
+    private static final int ROUNDS = 3750;
+    /** Six calls each: an object answers for 512. */
+    private static final int EACH = 80;
 
     private final Random random = new Random(44);
     private final Checks checks = new Checks("RealsTest");
