@@ -1405,13 +1405,13 @@ public final class LoweredPowers {
             long x = magnitude(a);
             long y = magnitude(b);
             if (x < y) {
-                return plus(b, a, y, x);
+                return plusLesser(b, a, y, x);
             }
-            return plus(a, b, x, y);
+            return plusLesser(a, b, x, y);
         }
 
         /** With x, the size of a, not below y, the size of b. */
-        private long plus(long a, long b, long x, long y) {
+        private long plusLesser(long a, long b, long x, long y) {
             boolean alike = ((a ^ b) & signBit) == 0;
             if (x > infinite || x == infinite && y == infinite && !alike) {
                 return nan;

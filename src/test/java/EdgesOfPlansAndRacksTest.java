@@ -38,6 +38,7 @@ public final class EdgesOfPlansAndRacksTest extends Edges {
         storeCast();
         storeFirstNamed();
         thingVoid();
+        thingBesideAnotherRack();
         thingEdges();
         copiedNone();
         copiedMissing();
@@ -408,6 +409,23 @@ public final class EdgesOfPlansAndRacksTest extends Edges {
             x.store(rack, 0, rack, 0);
             due("0 is not empty", x.thing(rack, 0), 0);
             due("still empty", x.thing(rack, 1), VOID);
+        }
+    }
+
+    private void thingBesideAnotherRack() {
+        says("32: VOID: no such place, whatever another RACK holds");
+        LoweredPowers x = new LoweredPowers();
+        for (int rack = 0; rack < 3; rack++) {
+            x.rack(rack, 0, 10);
+            for (int i = 0; i < 10; i++) {
+                x.store(rack, i, 0, 10 * rack + i);
+            }
+        }
+        for (int rack = 0; rack < 3; rack++) {
+            due("below", x.thing(rack, -1), VOID);
+            due("above", x.thing(rack, 10), VOID);
+            due("first", x.thing(rack, 0), 10 * rack);
+            due("last", x.thing(rack, 9), 10 * rack + 9);
         }
     }
 

@@ -15,6 +15,7 @@ public final class EdgesOfSearchTest extends Edges {
         searchFirstNamed();
         searchLeast();
         searchGreatest();
+        searchThroughAll();
         searchOrderTooLow();
         searchDegreeTooLow();
         searchPowersOfSTooLow();
@@ -43,6 +44,7 @@ public final class EdgesOfSearchTest extends Edges {
         checkedState();
         checkedFirstNamed();
         checkedByFoundAlone();
+        checkedUpToTheHighestPower();
         checks.end();
     }
 
@@ -120,6 +122,18 @@ public final class EdgesOfSearchTest extends Edges {
         due("take", x.take(), 4);
         due("one number", x.count(1), 1);
         due("four derivatives", x.direct(0, 0), x.found(0));
+    }
+
+    private void searchThroughAll() {
+        says("SEARCH: v 0, 1, .. 8: none of all of them is a sum");
+        LoweredPowers x = by("x^4+x^3");
+        due("search", x.search(4, 4, 2), NOT);
+        due("none", x.count(6), 0);
+        tell(x, "x^4-2x^2+1");
+        due("the next search starts anew", x.search(4, 4, 2), 2);
+        dueB(x, -5003, -5002, 1);
+        x.take();
+        allAnswer(0, 3, 1, x::checked);
     }
 
     private void searchOrderTooLow() {
@@ -391,5 +405,15 @@ public final class EdgesOfSearchTest extends Edges {
         // four derivatives of x to the 2nd are 0, those of its 2nd power are not
         due("n 0", x.checked(0), 1);
         due("n 1", x.checked(1), 0);
+    }
+
+    private void checkedUpToTheHighestPower() {
+        says("19: CHECKED: at every power of x, the 20th, too");
+        LoweredPowers x = by("x^4");
+        x.search(4, 0, 0);
+        x.take();
+        allAnswer(0, 3, 1, x::checked);
+        x.put(0, 4, 0, 1);
+        allAnswer(0, 3, 0, x::checked);
     }
 }

@@ -22,6 +22,7 @@ public final class EdgesOfTermsTest extends Edges {
         foundIsAnotherOne();
         workOfOrderNought();
         workOverTheLowestPower();
+        workOfTwoDerivatives();
         workOfTheHighestPowers();
         workOfFWithoutX();
         rightOfOrderNought();
@@ -201,6 +202,19 @@ public final class EdgesOfTermsTest extends Edges {
         due("derivatives", x.work(0, 5), FAR);
     }
 
+    private void workOfTwoDerivatives() {
+        says("WORK: derivative of g times F, and e times g times derivative of F");
+        LoweredPowers x = by("x^2+7");
+        x.put(2, 0, 0, 1);
+        // g is 2x (s+1) first: then 2 (s+1) F, and s times g times 2x
+        due("1", x.work(0, 0), FAR + 14);
+        due("s", x.work(0, 1), FAR + 14);
+        due("x^2", x.work(2, 0), FAR + 2);
+        due("x^2 s", x.work(2, 1), FAR + 6);
+        due("x^2 s^2", x.work(2, 2), FAR + 4);
+        due("x", x.work(1, 1), FAR);
+    }
+
     private void workOfTheHighestPowers() {
         says("WORK: the highest powers of x and s that come up");
         LoweredPowers x = new LoweredPowers();
@@ -239,6 +253,12 @@ public final class EdgesOfTermsTest extends Edges {
         x.put(0, 0, 0, 0);
         x.put(0, 0, 2, 1);
         due("F times s to the 2nd is no b", x.right(0), NOT);
+        x.clear();
+        x.put(1, 0, 0, 1);
+        due("s and 1", x.right(0), FAR + 1);
+        x.clear();
+        due("b is 0, whatever it was before", x.right(-1), -1);
+        due("b is 0, whatever it was before", x.right(0), FAR);
     }
 
     private void rightOfOrderOne() {
@@ -274,6 +294,10 @@ public final class EdgesOfTermsTest extends Edges {
         x.put(4, 4, 2, 0);
         x.put(3, 0, 0, 1);
         due("less x than F to the 3rd has", x.right(-1), NOT);
+        tell(x, "x");
+        x.clear();
+        x.put(2, 0, 0, 1);
+        due("s (s+1) without x is not b times x", x.right(-1), NOT);
     }
 
     private void easyEdges() {

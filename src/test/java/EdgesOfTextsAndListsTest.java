@@ -579,8 +579,8 @@ public final class EdgesOfTextsAndListsTest extends Edges {
         x.put(0, 0, 0, 6);
         x.put(4, 4, 2, 6);
         x.unplan();
-        x.plan(1, 3);
-        x.plan(1, 3);
+        x.plan(3, 3);
+        x.plan(0, 3);
         x.search(1, 0, 0);
         x.undo();
         dueF(x, 0, 0, 1);

@@ -18,6 +18,8 @@ public final class EdgesOfValuesTest extends Edges {
         wideNansAreOne();
         valueOfNone();
         valueAtNought();
+        valueThatIsNought();
+        valueBySigns();
         valueAtInfinity();
         valueAboveAll();
         valueBelowTheLeast();
@@ -28,6 +30,8 @@ public final class EdgesOfValuesTest extends Edges {
         stepsBad();
         stepsNone();
         stepsMost();
+        stepsBySigns();
+        stepsAtMinusNought();
         stepsByNought();
         stepsOnInfinity();
         cutBeyondInts();
@@ -90,6 +94,32 @@ public final class EdgesOfValuesTest extends Edges {
         due("at -0, and 0", x.value(MINUS_NOUGHT), 0);
         tell(x, "-x");
         due("at 0: -0, and 0", x.value(0), 0);
+    }
+
+    private void valueThatIsNought() {
+        says("20: VALUE that is 0 is 0, not -0");
+        LoweredPowers x = by("x-3");
+        due("at 3", x.value(bits(3f)), 0);
+        due("at 3", x.valued(bits(3.0)), 0L);
+        tell(x, "-x+3");
+        due("at 3", x.value(bits(3f)), 0);
+        due("at 3", x.valued(bits(3.0)), 0L);
+        tell(x, "x^2-2x+1");
+        due("at 1", x.slope(bits(1f)), 0);
+    }
+
+    private void valueBySigns() {
+        says("20: VALUE: times x, and the number, each above or below 0");
+        LoweredPowers x = by("-2x-3");
+        due("at 5", x.value(bits(5f)), bits(-13f));
+        due("at -5", x.value(bits(-5f)), bits(7f));
+        tell(x, "2x+3");
+        due("at 5", x.value(bits(5f)), bits(13f));
+        due("at -5", x.value(bits(-5f)), bits(-7f));
+        tell(x, "x^2");
+        due("at -3", x.value(bits(-3f)), bits(9f));
+        tell(x, "-x^4");
+        due("at -3", x.value(bits(-3f)), bits(-81f));
     }
 
     private void valueAtInfinity() {
@@ -206,6 +236,25 @@ public final class EdgesOfValuesTest extends Edges {
         }
     }
 
+    private void stepsBySigns() {
+        says("22: a STEP: x less VALUE by SLOPE, each above or below 0");
+        LoweredPowers x = by("x^2-2");
+        due("-1 by 2", x.steps(bits(1f), 1), bits(1.5f));
+        due("-1 by -2", x.steps(bits(-1f), 1), bits(-1.5f));
+        due("2 by 4", x.steps(bits(2f), 1), bits(1.5f));
+        due("2 by -4", x.steps(bits(-2f), 1), bits(-1.5f));
+    }
+
+    private void stepsAtMinusNought() {
+        says("22: a STEP of 0 or -0 from 0 or -0");
+        LoweredPowers x = by("x");
+        due("0 less 0", x.steps(0, 1), 0);
+        due("-0 less 0", x.steps(MINUS_NOUGHT, 1), MINUS_NOUGHT);
+        tell(x, "-x");
+        due("0 less -0", x.steps(0, 1), 0);
+        due("-0 less -0", x.steps(MINUS_NOUGHT, 1), 0);
+    }
+
     private void stepsByNought() {
         says("22: a STEP by a SLOPE that is 0");
         LoweredPowers x = by("x^2+1");
@@ -251,6 +300,11 @@ public final class EdgesOfValuesTest extends Edges {
         due("-1", x.cut(0xBF800000), -1);
         due("below 2", x.cut(0x3FFFFFFF), 1);
         due("above -2", x.cut(0xBFFFFFFF), -1);
+        due("a fourth", x.cut(bits(0.25f)), 0);
+        due("a fourth below 0", x.cut(bits(-0.25f)), 0);
+        for (int exponent = -40; exponent < 0; exponent++) {
+            due("2 to the " + exponent, x.cut(bits(Math.scalb(1.75f, exponent))), 0);
+        }
         due("the least", x.cut(1), 0);
         due("0", x.cut(0), 0);
         due("-0", x.cut(MINUS_NOUGHT), 0);
