@@ -370,6 +370,8 @@ public final class EdgesOfValuesTest extends Edges {
         tell(x, "x+1");
         due("half of the last bit is lost", x.valued(0x3CA0000000000000L), 0x3FF0000000000000L);
         due("a little more is not", x.valued(0x3CA0000000000001L), 0x3FF0000000000001L);
+        tell(x, "x^2");
+        due("a product's lowest bit is more than half", x.valued(0x3FF4000000000001L), 0x3FF9000000000003L);
     }
 
     private void narrowedAboveAll() {
